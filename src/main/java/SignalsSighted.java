@@ -756,7 +756,7 @@ public final class SignalsSighted {
                 return false;
             }
             for (int i = 0; i < length; i++) {
-                if (letterOf(k, i) != signs[begin + i]) {
+                if (names[k * LONGEST_NAME + i] != signs[begin + i]) {
                     return false;
                 }
             }
